@@ -633,7 +633,15 @@ public final class PictureBlock {
             if (kind == NONE) return fail(1, from);
             if (told.isFull(kind)) return fail(4, from);
             passRun();
-            return readRest(kind) && readSemicolon();
+            boolean read;
+            switch (kind) {
+                case PICTURE: read = readPicture(); break;
+                case ROW: read = readRow(); break;
+                case CONTROL: read = readControl(); break;
+                case CENTRE: read = readCentre(); break;
+                default: read = readNamed(kind); break;
+            }
+            return read && readSemicolon();
         }
 
         int kindOfWord() {
@@ -647,30 +655,21 @@ public final class PictureBlock {
         }
 
         boolean isOwnWord() {
-            return kindOfWord() != NONE || isWord("in") || isWord("turn") || isWord("any")
-                || isWord("at") || isWord("weight") || isWord("set");
-        }
-
-        boolean readRest(int kind) {
-            switch (kind) {
-                case PICTURE: return readPicture();
-                case ROW: return readRow();
-                case CONTROL: return readControl();
-                case CENTRE: return readCentre();
-                default: return readNamed(kind);
-            }
+            return isWord("strip") || isWord("picture") || isWord("in") || isWord("turn")
+                || isWord("any") || isWord("point") || isWord("row") || isWord("at")
+                || isWord("weight") || isWord("control") || isWord("set") || isWord("centre");
         }
 
         boolean readNamed(int kind) {
-            if (!readNewName()) return false;
+            if (!readName(NONE)) return false;
             told.addNamed(kind, name);
             return true;
         }
 
         boolean readPicture() {
-            if (!readNewName()) return false;
+            if (!readName(NONE)) return false;
             int given = name;
-            if (!readWord("in") || !readKnown(STRIP) || !readWord("turn") || !readTurn()) return false;
+            if (!readWord("in") || !readName(STRIP) || !readWord("turn") || !readTurn()) return false;
             told.addPicture(given, found, value);
             return true;
         }
@@ -686,9 +685,9 @@ public final class PictureBlock {
         }
 
         boolean readRow() {
-            if (!readKnown(PICTURE)) return false;
+            if (!readName(PICTURE)) return false;
             int picture = found;
-            if (!readKnown(POINT)) return false;
+            if (!readName(POINT)) return false;
             if (told.findRow(picture, found) != NONE) return fail(3, from);
             if (!readAt() || !readWord("weight") || !readNumber(1, 9)) return false;
             told.addRow(picture, found, across, along, value);
@@ -696,7 +695,7 @@ public final class PictureBlock {
         }
 
         boolean readControl() {
-            if (!readKnown(POINT)) return false;
+            if (!readName(POINT)) return false;
             if (told.controlSet[found] != 0) return fail(3, from);
             if (!readAt() || !readWord("set") || !readNumber(1, 2)) return false;
             told.addControl(found, across, along, value);
@@ -704,7 +703,7 @@ public final class PictureBlock {
         }
 
         boolean readCentre() {
-            if (!readKnown(PICTURE)) return false;
+            if (!readName(PICTURE)) return false;
             if (told.centreWeight[found] != 0) return fail(3, from);
             if (!readAt() || !readWord("weight") || !readNumber(1, 9)) return false;
             told.addCentre(found, across, along, value);
@@ -719,18 +718,8 @@ public final class PictureBlock {
             return true;
         }
 
-        boolean readNewName() {
-            if (!readName()) return false;
-            return told.isNamed(name) ? fail(3, from) : true;
-        }
-
-        boolean readKnown(int kind) {
-            if (!readName()) return false;
-            found = told.find(kind, name);
-            return found == NONE ? fail(3, from) : true;
-        }
-
-        boolean readName() {
+        /** A name of a kind that is there; with the kind NONE a name to be given. */
+        boolean readName(int kind) {
             markRun('a', 'z');
             if (isNoRun() || isOwnWord()) return fail(1, from);
             if (end - from > MOST_LETTERS) return fail(1, from + MOST_LETTERS);
@@ -739,7 +728,9 @@ public final class PictureBlock {
                 name = 27 * name + (from + k < end ? tape[from + k] - 'a' + 1 : 0);
             }
             passRun();
-            return true;
+            found = kind == NONE ? NONE : told.find(kind, name);
+            boolean isRight = kind == NONE ? !told.isNamed(name) : found != NONE;
+            return isRight ? true : fail(3, from);
         }
 
         boolean readWord(String word) {
@@ -870,7 +861,8 @@ public final class PictureBlock {
 
         /** Where a row puts its point. */
         int putAt(int row, int axis) {
-            return pictureAt[axis][told.rowPicture[row]] + turned(row, axis);
+            int picture = told.rowPicture[row];
+            return pictureAt[axis][picture] + told.turnedBy(turn[picture], row, axis);
         }
 
         int miss(int row, int axis) {
@@ -907,8 +899,9 @@ public final class PictureBlock {
         final Told told;
         final Stand stand;
         final int[] started = new int[MOST_PICTURES];
-        final int[] fromRow = new int[MOST_POINTS];
+        final int[] isLinked = new int[MOST_POINTS];
         final int[] ownRow = new int[MOST_POINTS];
+        final int[][] linkAt = new int[2][MOST_POINTS];
 
         Starter(Told told, Stand stand) {
             this.told = told;
@@ -945,7 +938,7 @@ public final class PictureBlock {
             }
         }
 
-        /** The first picture that can be started from others; its rows stand in ownRow, theirs in fromRow. */
+        /** The first picture that can be started from others; ownRow, linkAt tell of the points that it shares. */
         int findLinked() {
             gatherStarted();
             for (int p = 0; p < told.count[PICTURE]; p++) {
@@ -957,9 +950,13 @@ public final class PictureBlock {
         }
 
         void gatherStarted() {
-            Arrays.fill(fromRow, NONE);
+            Arrays.fill(isLinked, 0);
             for (int r = told.count[ROW] - 1; r >= 0; r--) {
-                if (stand.uses(r) && started[told.rowPicture[r]] == 1) fromRow[told.rowPoint[r]] = r;
+                if (!stand.uses(r) || started[told.rowPicture[r]] == 0) continue;
+                int q = told.rowPoint[r];
+                isLinked[q] = 1;
+                linkAt[0][q] = stand.putAt(r, 0);
+                linkAt[1][q] = stand.putAt(r, 1);
             }
         }
 
@@ -968,7 +965,7 @@ public final class PictureBlock {
             int links = 0;
             for (int r = 0; r < told.count[ROW]; r++) {
                 int q = told.rowPoint[r];
-                if (!stand.uses(r) || told.rowPicture[r] != picture || fromRow[q] == NONE) continue;
+                if (!stand.uses(r) || told.rowPicture[r] != picture || isLinked[q] == 0) continue;
                 ownRow[q] = r;
                 links++;
             }
@@ -987,7 +984,7 @@ public final class PictureBlock {
             if (first == NONE) return;
             if (told.turn[picture] == ANY) stand.turn[picture] = leastUnlikeTurn(first);
             for (int axis = 0; axis < 2; axis++) {
-                stand.pictureAt[axis][picture] = stand.putAt(fromRow[first], axis) - stand.turned(ownRow[first], axis);
+                stand.pictureAt[axis][picture] = linkAt[axis][first] - stand.turned(ownRow[first], axis);
             }
         }
 
@@ -1012,7 +1009,7 @@ public final class PictureBlock {
                 if (ownRow[q] == NONE) continue;
                 for (int axis = 0; axis < 2; axis++) {
                     int own = told.turnedBy(turn, ownRow[q], axis) - told.turnedBy(turn, ownRow[first], axis);
-                    int there = stand.putAt(fromRow[q], axis) - stand.putAt(fromRow[first], axis);
+                    int there = linkAt[axis][q] - linkAt[axis][first];
                     unlike += Math.abs(own - there);
                 }
             }
@@ -1035,6 +1032,7 @@ public final class PictureBlock {
         final Stand stand;
         final long[] weight = new long[MOST_POINTS];
         final long[] pull = new long[MOST_POINTS];
+        final int[][] turned = new int[2][MOST_ROWS];
 
         Mover(Told told, Stand stand) {
             this.told = told;
@@ -1043,6 +1041,10 @@ public final class PictureBlock {
 
         /** Rounds till they rest: how many altered something. */
         int settle(int most) {
+            for (int r = 0; r < told.count[ROW]; r++) {
+                turned[0][r] = stand.turned(r, 0);
+                turned[1][r] = stand.turned(r, 1);
+            }
             for (int altering = 0; altering < most; altering++) {
                 if (!makeRound()) return altering;
             }
@@ -1050,23 +1052,22 @@ public final class PictureBlock {
         }
 
         boolean makeRound() {
+            boolean altered = false;
             // across and along never touch one another; nor do points one another, nor pictures, nor drifts
-            boolean across = moveAll(0);
-            boolean along = moveAll(1);
-            return across || along;
-        }
-
-        boolean moveAll(int axis) {
-            boolean points = movePoints(axis);
-            boolean pictures = movePictures(axis);
-            boolean drifts = moveDrifts(axis);
-            return points || pictures || drifts;
+            for (int axis = 0; axis < 2; axis++) {
+                if (movePoints(axis)) altered = true;
+                if (movePictures(axis)) altered = true;
+                if (moveDrifts(axis)) altered = true;
+            }
+            return altered;
         }
 
         boolean movePoints(int axis) {
             clearPulls();
             for (int r = 0; r < told.count[ROW]; r++) {
-                if (stand.uses(r)) addPull(told.rowPoint[r], told.rowWeight[r], stand.putAt(r, axis));
+                if (!stand.uses(r)) continue;
+                int to = stand.pictureAt[axis][told.rowPicture[r]] + turned[axis][r];
+                addPull(told.rowPoint[r], told.rowWeight[r], to);
             }
             for (int q = 0; q < told.count[POINT]; q++) {
                 if (stand.isFixed(q)) weight[q] = 0;
@@ -1078,7 +1079,7 @@ public final class PictureBlock {
             clearPulls();
             for (int r = 0; r < told.count[ROW]; r++) {
                 if (!stand.uses(r)) continue;
-                int to = stand.pointAt[axis][told.rowPoint[r]] - stand.turned(r, axis);
+                int to = stand.pointAt[axis][told.rowPoint[r]] - turned[axis][r];
                 addPull(told.rowPicture[r], told.rowWeight[r], to);
             }
             for (int p = 0; p < told.count[PICTURE]; p++) {
@@ -1106,24 +1107,20 @@ public final class PictureBlock {
             pull[which] += (long) strength * to;
         }
 
+        /** Each becomes the whole number nearest to its mean; half way between two the old one, else the lesser. */
         boolean moveEach(int[] places, int many) {
             boolean altered = false;
             for (int which = 0; which < many; which++) {
-                if (weight[which] <= 0) continue;
-                int best = bestPlace(which, places[which]);
-                if (best != places[which]) altered = true;
-                places[which] = best;
+                long heavy = weight[which];
+                if (heavy <= 0) continue;
+                long best = Math.floorDiv(pull[which], heavy);
+                long over = 2 * (pull[which] - best * heavy);
+                if (over > heavy || over == heavy && places[which] == best + 1) best++;
+                if (best == places[which]) continue;
+                places[which] = (int) best;
+                altered = true;
             }
             return altered;
-        }
-
-        /** The whole number nearest to the mean; half way between two the old one, else the lesser. */
-        int bestPlace(int which, int old) {
-            if (weight[which] <= 0) return old;
-            long lesser = Math.floorDiv(pull[which], weight[which]);
-            long over = 2 * (pull[which] - lesser * weight[which]);
-            boolean up = over > weight[which] || over == weight[which] && old == lesser + 1;
-            return (int) (up ? lesser + 1 : lesser);
         }
     }
 
