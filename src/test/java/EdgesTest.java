@@ -16,12 +16,14 @@ public final class EdgesTest {
         hangs();
         drops();
         cleans();
+        putBacks();
         ties();
         trees();
         setsApart();
         measures();
         slipsKept();
         images();
+        sumGoesRound();
         imagesRefused();
         Checks.finish("EdgesTest");
     }
@@ -248,7 +250,7 @@ public final class EdgesTest {
             for (int q = 0; q < 10 && made < rows; q++) {
                 int off = q == 0 ? 0 : far;
                 t.append("row ").append((char) ('a' + p)).append(" q").append((char) ('a' + q));
-                t.append(" at ").append(q % 2 == 0 ? 50 + off * q : 50).append(" 50 weight 1;");
+                t.append(" at ").append(50 + off * q * q).append(" 50 weight 1;");
                 made++;
             }
         }
@@ -271,13 +273,35 @@ public final class EdgesTest {
         Checks.due("dropped", x.row(3, 5), 1);
         Checks.due("again", x.clean(0), 0);
         Checks.due("has 6", x.has(6), 1);
-        // 30 rows of three pictures, most of them far off: no more than 20 go, whatever was dropped ahead of it
+        // 30 rows of three pictures, no two of a picture alike: 27 could go, no more than 20 do, one dropped ahead of it or not
         x = Checks.made(star(30, 31), 54);
         x.drop(0, true);
-        int gone = x.clean(0);
-        Checks.due("20 at most", gone <= 20 && gone > 8, true);
-        Checks.due("counted without those ahead of it", x.has(6), gone + 1);
+        Checks.due("20 at most", x.clean(0), 20);
+        Checks.due("counted without those ahead of it", x.has(6), 21);
         Checks.due("row 0 stays dropped", x.row(0, 5), 1);
+        Checks.due("the other ones later", x.clean(0), 6);
+    }
+
+    /** Three rows far off hide one that is nearly right: it is dropped first, and put back at last. */
+    private static void putBacks() {
+        StringBuilder t = new StringBuilder("strip s;picture a in s turn 0;");
+        int[] at = {0, 0, 0, 130, 100, 100, 100, 100};
+        for (int q = 0; q < at.length; q++) {
+            t.append("point q").append((char) ('a' + q)).append(";control q").append((char) ('a' + q));
+            t.append(" at 100 0 set 1;row a q").append((char) ('a' + q)).append(" at ").append(at[q]).append(" 0 weight 1;");
+        }
+        long[] limits = {16000000, 9000000, 8999999};
+        int[] gone = {3, 3, 4};
+        int[] place = {-750, -750, 0};
+        for (int k = 0; k < limits.length; k++) {
+            PictureBlock x = Checks.made(t.toString(), 26);
+            Checks.due("drop", x.drop(7, true), true);
+            Checks.due("clean", x.clean(limits[k]), gone[k]);
+            Checks.due("row that hid", x.row(3, 5), k == 2 ? 1 : 0);
+            Checks.due("row dropped ahead of it", x.row(7, 5), 1);
+            Checks.due("place", x.picture(0, 3), place[k]);
+            Checks.due("has 6", x.has(6), gone[k] + 1);
+        }
     }
 
     private static void ties() {
@@ -363,6 +387,8 @@ public final class EdgesTest {
             Checks.due("alters wrong", x.alters(0, w[0], w[1], 0), NONE);
         }
         Checks.due("still", x.row(0, 3), 10);
+        Checks.due("measure", x.measure(0, 9999, 0), true);
+        Checks.due("u", x.row(0, 2), 9999);
         Checks.due("measure", x.measure(0, 0, 9999), true);
         Checks.due("u", x.row(0, 2), 0);
         Checks.due("v", x.row(0, 3), 9999);
@@ -417,6 +443,7 @@ public final class EdgesTest {
         Checks.due("drift again", x.drift(0, 0), 0);
         int[] far = Checks.withInt(Checks.withInt(image, 2, 100000000), 6, -100000000);
         far = Checks.withInt(Checks.withInt(far, 27, -100000000), 35, 100000000);
+        far = Checks.withInt(far, 31, 100000000);
         Checks.due("far on", Checks.on(x, far), true);
         Checks.due("far a", x.picture(0, 3), 100000000);
         Checks.due("far a along", x.picture(0, 4), -100000000);
@@ -426,6 +453,22 @@ public final class EdgesTest {
         long across = -200000300L;
         long along = x.point(1, 1) + 100000000L - 400L;
         Checks.due("far doubt", x.doubt(2), across * across + along * along);
+    }
+
+    private static void sumGoesRound() {
+        StringBuilder t = new StringBuilder("strip s;picture a in s turn 0;");
+        for (int q = 0; q < 15; q++) {
+            t.append("point q").append((char) ('a' + q)).append(";row a q").append((char) ('a' + q)).append(" at 0 0 weight 9;");
+        }
+        PictureBlock x = Checks.made(t.toString(), 32);
+        int[] image = Checks.image(x);
+        for (int k = 0; k < 32; k++) image = Checks.withInt(image, 2 + 4 * k, k < 2 ? -100000000 : 100000000);
+        Checks.due("on", Checks.on(x, image), true);
+        Checks.due("doubt", x.doubt(14), 720000000000000000L);
+        Checks.due("sum goes round", x.sum(), 15 * 720000000000000000L);
+        Checks.due("below 0", x.sum() < 0, true);
+        Checks.due("rounds", x.rounds(1), 1);
+        Checks.due("points at the picture", x.point(3, 0), -100000000);
     }
 
     private static void imagesRefused() {
@@ -445,6 +488,8 @@ public final class EdgesTest {
             Checks.with(image, 0, 4), Checks.with(image, 0, 255), Checks.with(image, 1, 1),
             Checks.with(image, 10, 4), Checks.withInt(image, 2, 100000001), Checks.withInt(image, 6, -100000001),
             Checks.withInt(image, 27, 100000001), Checks.withInt(image, 31, Integer.MIN_VALUE),
+            Checks.withInt(image, 2, -100000001), Checks.withInt(image, 6, 100000001),
+            Checks.withInt(image, 27, -100000001), Checks.withInt(image, 31, 100000001),
             Checks.withInt(image, 19, 2999), Checks.withInt(image, 23, 4001),
             Checks.withInt(image, 35, 100000001), Checks.withInt(image, 39, -100000001),
             Checks.withInt(image, 43, 1), Checks.withInt(image, 47, -1),

@@ -77,6 +77,29 @@ public final class TextTest {
         Checks.due("fault", x.fault(0), 1);
         Checks.due("fault place", x.fault(1), 0);
         Checks.due("the tape went with a fault", x.end(1), false);
+        tapeEnds(x);
+    }
+
+    /** What lies behind the text's end on the tape is no more of it; the tape's own end is the text's too. */
+    private static void tapeEnds(PictureBlock x) {
+        String[] texts = {"strip s;", "strip stuv;", S + "picture a in s turn 33;", "strip s; strip t;", "strips s;"};
+        int[] ends = {7, 7, 29, 14, 5};
+        for (int k = 0; k < texts.length; k++) {
+            Checks.feed(x, Checks.bytes(texts[k]), 0);
+            Checks.due("end", x.end(ends[k]), true);
+            Checks.due("block", x.block(), -1);
+            Checks.due("fault", x.fault(0), 1);
+            Checks.due("place", x.fault(1), ends[k]);
+        }
+        String blanks = " ".repeat(1600);
+        String[] full = {"strip s", "strip", "strip ", S + "picture a in s turn", S + "picture a in s turn 3"};
+        for (String text : full) {
+            Checks.due("full", Checks.block(x, blanks.substring(text.length()) + text), -1);
+            Checks.due("full fault", x.fault(0), 1);
+            Checks.due("full place", x.fault(1), 1600);
+        }
+        Checks.due("full and right", Checks.block(x, blanks.substring(S.length()) + S), 1);
+        Checks.due("full and blank", Checks.block(x, blanks), 0);
     }
 
     private static void statements() {
@@ -91,6 +114,14 @@ public final class TextTest {
 
     private static void wordsAndNumbers() {
         faultAt("|x", 1);
+        String[] own = {"strip", "picture", "in", "turn", "any", "point", "row", "at", "weight", "control", "set", "centre"};
+        for (String word : own) {
+            faultAt("strip |" + word + ";", 1);
+            faultAt(AP + "row a |" + word + " at 1 1 weight 1;", 1);
+            right("strip x" + word.substring(1, Math.min(6, word.length())) + ";", 1);
+        }
+        faultAt("|xtrip s;", 1);
+        faultAt(S + "picture a |xn s turn 0;", 1);
         faultAt("|stri", 1);
         faultAt("|strips a;", 1);
         faultAt("|Strip a;", 1);
