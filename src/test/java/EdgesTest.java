@@ -13,6 +13,8 @@ public final class EdgesTest {
         halves();
         starts();
         wholes();
+        wholesByThePrime();
+        largest();
         hangs();
         drops();
         cleans();
@@ -198,6 +200,85 @@ public final class EdgesTest {
         x = Checks.made("strip s;picture a in s turn 0;point p;point q;row a p at 0 0 weight 2;row a q at 0 0 weight 1;"
             + "control p at 0 0 set 1;control q at 1 0 set 1;", 8);
         Checks.due("a third", 3L * x.whole(0, 0, 0) % 1000003, 100);
+    }
+
+    /** Four pictures and five points, the last of control, with rows of these weights that all fit. */
+    private static PictureBlock weighted(int[][] weights) {
+        StringBuilder t = new StringBuilder("strip s;");
+        int statements = 11;
+        for (int p = 0; p < 4; p++) t.append("picture p").append((char) ('a' + p)).append(" in s turn 0;");
+        for (int q = 0; q < 5; q++) t.append("point q").append((char) ('a' + q)).append(';');
+        t.append("control qe at 45 67 set 1;");
+        for (int p = 0; p < 4; p++) {
+            for (int q = 0; q < 5; q++) {
+                if (weights[p][q] == 0) continue;
+                t.append("row p").append((char) ('a' + p)).append(" q").append((char) ('a' + q)).append(" at ");
+                t.append(20 + 3 * q - 4 * p).append(' ').append(30 - q + p).append(" weight ").append(weights[p][q]).append(';');
+                statements++;
+            }
+        }
+        return Checks.made(t.toString(), statements);
+    }
+
+    private static void wholesByThePrime() {
+        // a divisor on the way is 0 modulo the prime: lines must be put in another order
+        int[][][] swapped = {{{2, 3, 0, 0, 2}, {7, 7, 4, 7, 1}, {8, 1, 7, 5, 1}, {4, 8, 3, 4, 9}},
+            {{4, 6, 6, 3, 7}, {9, 9, 2, 8, 7}, {0, 0, 6, 8, 0}, {2, 9, 7, 4, 6}}};
+        for (int[][] weights : swapped) {
+            PictureBlock x = weighted(weights);
+            for (int p = 0; p < 4; p++) {
+                Checks.due("picture across", x.whole(0, p, 0), 4500 - 3200 + 400 * p);
+                Checks.due("picture along", x.whole(0, p, 1), 6700 - 2600 - 100 * p);
+            }
+            for (int q = 0; q < 5; q++) {
+                Checks.due("point across", x.whole(1, q, 0), 4500 - 1200 + 300 * q);
+                Checks.due("point along", x.whole(1, q, 1), 6700 + 400 - 100 * q);
+            }
+        }
+        // the equations have one answer, but not modulo the prime
+        int[][][] never = {{{6, 9, 0, 7, 5}, {7, 0, 8, 6, 5}, {9, 0, 3, 6, 5}, {9, 1, 0, 1, 1}},
+            {{2, 5, 0, 5, 0}, {9, 5, 6, 5, 4}, {2, 3, 6, 1, 5}, {0, 7, 5, 3, 0}}};
+        for (int[][] weights : never) {
+            PictureBlock x = weighted(weights);
+            for (int p = 0; p < 4; p++) Checks.due("can't be", x.whole(0, p, 0), NONE);
+            for (int q = 0; q < 4; q++) Checks.due("can't be", x.whole(1, q, 1), NONE);
+            Checks.due("control all the same", x.whole(1, 4, 1), 6700);
+            Checks.due("not loose", x.picture(0, 6), 0);
+        }
+    }
+
+    /** As many pictures, points and drifts as can be, hung up on one another and on one point of control. */
+    private static void largest() {
+        StringBuilder t = new StringBuilder();
+        for (int s = 0; s < 6; s++) t.append("strip ").append((char) ('a' + s)).append(';');
+        for (int p = 0; p < 12; p++) {
+            t.append("picture ").append((char) ('g' + p)).append(" in ").append((char) ('a' + p % 6)).append(" turn 0;");
+        }
+        for (int q = 0; q < 20; q++) t.append("point ").append(pointName(q)).append(';');
+        for (int p = 0; p < 12; p++) {
+            for (int q = p; q < (p == 11 ? 20 : p + 2); q++) {
+                t.append("row ").append((char) ('g' + p)).append(' ').append(pointName(q)).append(" at 1 2 weight 3;");
+            }
+        }
+        for (int s = 0; s < 6; s++) t.append("centre ").append((char) ('g' + s)).append(" at 1 1 weight 1;");
+        PictureBlock loose = Checks.made(t.toString(), 6 + 12 + 20 + 31 + 6);
+        Checks.due("without control", loose.whole(0, 11, 0), NONE);
+        PictureBlock x = Checks.made(t + "control s at 50 60 set 1;", 6 + 12 + 20 + 31 + 6 + 1);
+        Checks.due("picture", x.whole(0, 11, 0), 4900);
+        Checks.due("picture", x.whole(0, 0, 1), 5800);
+        Checks.due("point", x.whole(1, 19, 1), 6000);
+        Checks.due("drift", x.whole(2, 5, 0), 4800);
+        Checks.due("drift", x.whole(2, 0, 1), 5700);
+        Checks.due("parts", x.parts(), 1);
+        Checks.due("blind", x.blind(), 31);
+        Checks.due("tree", x.tree(-1), 11);
+        Checks.due("image", x.image(), 1 + 9 * 12 + 8 * 20 + 8 * 6 + 31 + 1);
+        x.rounds(500);
+        Checks.due("doubt of nothing", x.clean(0), 0);
+    }
+
+    private static String pointName(int q) {
+        return q < 8 ? "" + (char) ('s' + q) : "z" + (char) ('a' + q);
     }
 
     private static void hangs() {
