@@ -28,7 +28,8 @@ public final class PictureBlock {
     private static final int ROW = 3;
     private static final int CONTROL = 4;
     private static final int CENTRE = 5;
-    private static final int[] MOST = {6, 12, 20, 60, 10, 12};
+    // centres have no number of their own: each picture has one at most, so one more is a fault of its name
+    private static final int[] MOST = {6, 12, 20, 60, 10};
 
     private final int[] tape;
     private int taped;
@@ -497,7 +498,7 @@ public final class PictureBlock {
         }
 
         boolean isFull(int kind) {
-            return count[kind] >= MOST[kind];
+            return kind >= 0 && kind < MOST.length && count[kind] >= MOST[kind];
         }
 
         int find(int kind, int named) {

@@ -12,6 +12,7 @@ public final class TextTest {
         names();
         numbersThatCantBe();
         tooMany();
+        centresHaveNoNumber();
         faultLeavesAll();
         letters();
         Checks.finish("TextTest");
@@ -225,9 +226,6 @@ public final class TextTest {
         StringBuilder pictures = new StringBuilder(S);
         for (char c = 'a'; c < 'm'; c++) pictures.append("picture ").append(c).append(" in s turn 0;");
         faultAt(pictures + "|picture m in s turn 0;", 4);
-        for (char c = 'a'; c < 'm'; c++) pictures.append("centre ").append(c).append(" at 1 1 weight 1;");
-        right(pictures.toString(), 25);
-        faultAt(pictures + "|centre a at 1 1 weight 1;", 4);
         StringBuilder points = new StringBuilder();
         for (char c = 'a'; c < 'u'; c++) points.append("point ").append(c).append(';');
         right(points.toString(), 20);
@@ -235,6 +233,36 @@ public final class TextTest {
         for (char c = 'a'; c < 'k'; c++) points.append("control ").append(c).append(" at 1 1 set 1;");
         right(points.toString(), 30);
         faultAt(points + "|control k at 1 1 set 1;", 4);
+    }
+
+    /** With a centre of every picture a further one has the faults that it has by itself. */
+    private static void centresHaveNoNumber() {
+        StringBuilder all = new StringBuilder(S);
+        for (char c = 'a'; c < 'm'; c++) all.append("picture ").append(c).append(" in s turn 0;");
+        for (char c = 'a'; c < 'm'; c++) all.append("centre ").append(c).append(" at 1 1 weight 1;");
+        right(all.toString(), 25);
+        right(all + "point p;control p at 1 1 set 1;row a p at 1 1 weight 1;", 28);
+        Checks.due("centres", Checks.made(all.toString(), 25).has(5), 12);
+        for (char c = 'a'; c < 'm'; c++) {
+            faultAt(all + "centre |" + c, 3);
+            faultAt(all + "centre |" + c + " at 1 1 weight 1;", 3);
+        }
+        faultAt(all + "centre |a at 1 1 weight 0;", 3);
+        faultAt(all + "centre |a !", 3);
+        faultAt(all + "centre |s at 1 1 weight 1;", 3);
+        faultAt(all + "centre |nobody", 3);
+        faultAt(all + "point p;centre |p at 1 1 weight 1;", 3);
+        faultAt(all + "centre|", 1);
+        faultAt(all + "centre  |", 1);
+        faultAt(all + "centre |;", 1);
+        faultAt(all + "centre|7", 1);
+        faultAt(all + "centre |7", 1);
+        faultAt(all + "centre |at 1 1 weight 1;", 1);
+        faultAt(all + "centre |centre", 1);
+        faultAt(all + "centre abcdef|g", 1);
+        faultAt(all + "|centres a at 1 1 weight 1;", 1);
+        faultAt(all + "|centr", 1);
+        faultAt(all + "|picture n in s turn 0;", 4);
     }
 
     private static void faultLeavesAll() {
