@@ -1,16 +1,36 @@
+import java.util.ArrayList;
+import java.util.List;
+import java.util.function.Consumer;
+import java.util.function.ToLongFunction;
+
 /** What the tests share: feeding texts and bytes, counting what is wrong. */
 final class Checks {
     private static int asked = 0;
     private static int wrong = 0;
+    private static String sentence = "";
+    private static int sentences = 0;
+    private static int askedAhead = 0;
 
     private Checks() {
+    }
+
+    /** What is asked behind this holds these words of the document; words of which nothing is asked are wrong. */
+    static void sentence(String words) {
+        endSentence();
+        sentence = "<" + words + "> ";
+        sentences++;
+        askedAhead = asked;
+    }
+
+    private static void endSentence() {
+        if (sentences > 0 && asked == askedAhead) due("answers asked", 0, 1);
     }
 
     static void due(String what, long got, long want) {
         asked++;
         if (got == want) return;
         wrong++;
-        if (wrong <= 50) System.out.println(what + " answered " + got + ", due is " + want);
+        if (wrong <= 50) System.out.println(sentence + what + " answered " + got + ", due is " + want);
     }
 
     static void due(String what, boolean got, boolean want) {
@@ -18,7 +38,9 @@ final class Checks {
     }
 
     static void finish(String name) {
-        System.out.println(name + ": " + asked + " answers, " + wrong + " wrong");
+        endSentence();
+        String held = sentences == 0 ? "" : sentences + " sentences, ";
+        System.out.println(name + ": " + held + asked + " answers, " + wrong + " wrong");
         if (wrong != 0 || asked == 0) System.exit(1);
     }
 
@@ -51,6 +73,78 @@ final class Checks {
         PictureBlock x = new PictureBlock();
         due("block of " + text, block(x, text), statements);
         return x;
+    }
+
+    /** A new object with a text that is right and ends each statement with its only semicolon. */
+    static PictureBlock told(String text) {
+        return made(text, (int) text.chars().filter(sign -> sign == ';').count());
+    }
+
+    static void right(String text) {
+        PictureBlock x = told(text);
+        due("fault 0 of <" + text + ">", x.fault(0), 0);
+        due("fault 1 of <" + text + ">", x.fault(1), PictureBlock.NONE);
+    }
+
+    static void fault(String text, int kind, int place) {
+        PictureBlock x = new PictureBlock();
+        due("block of <" + text + ">", block(x, text), PictureBlock.NONE);
+        due("fault 0 of <" + text + ">", x.fault(0), kind);
+        due("fault 1 of <" + text + ">", x.fault(1), place);
+    }
+
+    /** The fault stands where the bar is, which is no part of the text. */
+    static void faultAt(String text, int kind) {
+        int bar = text.indexOf('|');
+        fault(text.substring(0, bar) + text.substring(bar + 1), kind, bar);
+    }
+
+    /** The statement so many times, its % being a, b, c and so on. */
+    static String times(int many, String statement) {
+        StringBuilder t = new StringBuilder();
+        for (int k = 0; k < many; k++) t.append(statement.replace('%', (char) ('a' + k)));
+        return t.toString();
+    }
+
+    /** All that an object tells but for its tape and its images. */
+    static List<Long> all(PictureBlock x) {
+        List<Long> all = new ArrayList<>();
+        for (int what = 0; what <= 8; what++) all.add((long) x.has(what));
+        for (int p = 0; p < x.has(1); p++) {
+            for (int what = 0; what <= 7; what++) all.add((long) x.picture(p, what));
+        }
+        for (int q = 0; q < x.has(2); q++) {
+            for (int what = 0; what <= 5; what++) all.add((long) x.point(q, what));
+        }
+        for (int r = 0; r < x.has(3); r++) {
+            for (int what = 0; what <= 8; what++) all.add((long) x.row(r, what));
+        }
+        for (int s = 0; s < x.has(0); s++) {
+            all.add((long) x.letter(0, s, 0));
+            all.add((long) x.drift(s, 0));
+            all.add((long) x.drift(s, 1));
+        }
+        all.add((long) x.fault(0));
+        all.add((long) x.fault(1));
+        all.add(x.sum());
+        return all;
+    }
+
+    static void same(String what, List<Long> got, List<Long> want) {
+        due(what + ", how many", got.size(), want.size());
+        for (int k = 0; k < Math.min(got.size(), want.size()); k++) due(what + ", the " + k, got.get(k), want.get(k));
+    }
+
+    /** The call leaves all as it is. */
+    static void stays(String what, PictureBlock x, Consumer<PictureBlock> call) {
+        List<Long> ahead = all(x);
+        call.accept(x);
+        same(what + ": all stays", all(x), ahead);
+    }
+
+    /** The call has this answer and leaves all as it is. */
+    static void refused(String what, PictureBlock x, ToLongFunction<PictureBlock> call, long want) {
+        stays(what, x, y -> due(what, call.applyAsLong(y), want));
     }
 
     static int[] image(PictureBlock x) {

@@ -18,25 +18,6 @@ public final class TextTest {
         Checks.finish("TextTest");
     }
 
-    private static void fault(String text, int kind, int place) {
-        PictureBlock x = new PictureBlock();
-        Checks.due("block of <" + text + ">", Checks.block(x, text), PictureBlock.NONE);
-        Checks.due("fault 0 of <" + text + ">", x.fault(0), kind);
-        Checks.due("fault 1 of <" + text + ">", x.fault(1), place);
-    }
-
-    /** The fault stands where the text's last byte ahead of the bar is followed. */
-    private static void faultAt(String text, int kind) {
-        int bar = text.indexOf('|');
-        fault(text.substring(0, bar) + text.substring(bar + 1), kind, bar);
-    }
-
-    private static void right(String text, int statements) {
-        PictureBlock x = Checks.made(text, statements);
-        Checks.due("fault 0 of <" + text + ">", x.fault(0), 0);
-        Checks.due("fault 1 of <" + text + ">", x.fault(1), PictureBlock.NONE);
-    }
-
     private static void newObject() {
         Checks.due("NONE", PictureBlock.NONE, -1);
         Checks.due("NOTHING", PictureBlock.NOTHING, -1000000000);
@@ -104,135 +85,135 @@ public final class TextTest {
     }
 
     private static void statements() {
-        right("", 0);
-        right(" \n ", 0);
-        right(S, 1);
-        right("\nstrip\ns \n; picture a in s turn any ;point p;row a p at 0 9999 weight 9;"
-            + "control p at 9999 0 set 2;centre a at 1 2 weight 1;\n\n", 6);
-        right(AP + "row a p at 0001 1 weight 0009;", 4);
-        right("strip picts;strip turns;strip anys;strip inn;strip a;strip zzzzzz;", 6);
+        Checks.right("");
+        Checks.right(" \n ");
+        Checks.right(S);
+        Checks.right("\nstrip\ns \n; picture a in s turn any ;point p;row a p at 0 9999 weight 9;"
+            + "control p at 9999 0 set 2;centre a at 1 2 weight 1;\n\n");
+        Checks.right(AP + "row a p at 0001 1 weight 0009;");
+        Checks.right("strip picts;strip turns;strip anys;strip inn;strip a;strip zzzzzz;");
     }
 
     private static void wordsAndNumbers() {
-        faultAt("|x", 1);
+        Checks.faultAt("|x", 1);
         String[] own = {"strip", "picture", "in", "turn", "any", "point", "row", "at", "weight", "control", "set", "centre"};
         for (String word : own) {
-            faultAt("strip |" + word + ";", 1);
-            faultAt(AP + "row a |" + word + " at 1 1 weight 1;", 1);
-            right("strip x" + word.substring(1, Math.min(6, word.length())) + ";", 1);
+            Checks.faultAt("strip |" + word + ";", 1);
+            Checks.faultAt(AP + "row a |" + word + " at 1 1 weight 1;", 1);
+            Checks.right("strip x" + word.substring(1, Math.min(6, word.length())) + ";");
         }
-        faultAt("|xtrip s;", 1);
-        faultAt(S + "picture a |xn s turn 0;", 1);
-        faultAt("|stri", 1);
-        faultAt("|strips a;", 1);
-        faultAt("|Strip a;", 1);
-        faultAt("|;", 1);
-        faultAt(S + "|;", 1);
-        faultAt(S + "|7;", 1);
-        faultAt(S + "|turn 7;", 1);
-        faultAt("strip|", 1);
-        faultAt("strip  |", 1);
-        faultAt("strip s|", 1);
-        faultAt("strip s  |", 1);
-        faultAt("strip |;", 1);
-        faultAt("strip |7;", 1);
-        faultAt("strip|7;", 1);
-        faultAt("strip |!;", 1);
-        faultAt("strip |strip;", 1);
-        faultAt("strip |picture;", 1);
-        faultAt("strip |any;", 1);
-        faultAt("strip |centre;", 1);
-        faultAt("strip abcdef|g;", 1);
-        faultAt("strip pictur|es;", 1);
-        faultAt("strip abcdef|ghi", 1);
-        faultAt("strip s|7;", 1);
-        faultAt("strip s |t;", 1);
-        faultAt("strip s|\t;", 1);
-        faultAt(S + "picture a |s turn 0;", 1);
-        faultAt(S + "picture a |inn s turn 0;", 1);
-        faultAt(S + "picture a in s |any;", 1);
-        faultAt(S + "picture a in s turn |;", 1);
-        faultAt(S + "picture a in s turn|;", 1);
-        faultAt(S + "picture a in s turn |many;", 1);
-        faultAt(S + "picture a in s turn|1;", 1);
-        faultAt(S + "picture a in s turn|9;", 1);
-        faultAt(S + "picture a in s turn|12345;", 1);
-        faultAt(S + "picture a in s |turnany;", 1);
-        faultAt(S + "picture a in s turn 1|any;", 1);
-        faultAt(S + "picture a in s turn any |1;", 1);
-        faultAt(S + "picture a in s turn any|1;", 1);
-        faultAt(S + "picture a in s turn 1 |1;", 1);
-        faultAt(S + "picture a in s turn 0000|0;", 1);
-        faultAt(S + "picture |0 in s turn 0;", 1);
-        faultAt(AP + "row a p at|5 5 weight 1;", 1);
-        faultAt(AP + "row a p at 5 1234|567 weight 1;", 1);
-        faultAt(AP + "row a p at 1234|5", 1);
-        faultAt(AP + "row a p at 5 5|weight 1;", 1);
-        faultAt(AP + "row a p at 5 |weight 1;", 1);
-        faultAt(AP + "row a p at 5 5 weight|1;", 1);
-        faultAt(AP + "row a p at 5 5 weight 1234|5;", 1);
-        faultAt(AP + "row a p |5 5 weight 1;", 1);
-        faultAt(AP + "row a |at 5 5 weight 1;", 1);
-        faultAt(AP + "row a p at 5 5 |set 1;", 1);
-        faultAt(AP + "control p at 5 5 |weight 1;", 1);
-        faultAt(AP + "control p at 5 5|set 1;", 1);
-        faultAt(AP + "centre a at 5 5 |set 1;", 1);
-        faultAt(AP + "row a p at 5 5 weight |", 1);
+        Checks.faultAt("|xtrip s;", 1);
+        Checks.faultAt(S + "picture a |xn s turn 0;", 1);
+        Checks.faultAt("|stri", 1);
+        Checks.faultAt("|strips a;", 1);
+        Checks.faultAt("|Strip a;", 1);
+        Checks.faultAt("|;", 1);
+        Checks.faultAt(S + "|;", 1);
+        Checks.faultAt(S + "|7;", 1);
+        Checks.faultAt(S + "|turn 7;", 1);
+        Checks.faultAt("strip|", 1);
+        Checks.faultAt("strip  |", 1);
+        Checks.faultAt("strip s|", 1);
+        Checks.faultAt("strip s  |", 1);
+        Checks.faultAt("strip |;", 1);
+        Checks.faultAt("strip |7;", 1);
+        Checks.faultAt("strip|7;", 1);
+        Checks.faultAt("strip |!;", 1);
+        Checks.faultAt("strip |strip;", 1);
+        Checks.faultAt("strip |picture;", 1);
+        Checks.faultAt("strip |any;", 1);
+        Checks.faultAt("strip |centre;", 1);
+        Checks.faultAt("strip abcdef|g;", 1);
+        Checks.faultAt("strip pictur|es;", 1);
+        Checks.faultAt("strip abcdef|ghi", 1);
+        Checks.faultAt("strip s|7;", 1);
+        Checks.faultAt("strip s |t;", 1);
+        Checks.faultAt("strip s|\t;", 1);
+        Checks.faultAt(S + "picture a |s turn 0;", 1);
+        Checks.faultAt(S + "picture a |inn s turn 0;", 1);
+        Checks.faultAt(S + "picture a in s |any;", 1);
+        Checks.faultAt(S + "picture a in s turn |;", 1);
+        Checks.faultAt(S + "picture a in s turn|;", 1);
+        Checks.faultAt(S + "picture a in s turn |many;", 1);
+        Checks.faultAt(S + "picture a in s turn|1;", 1);
+        Checks.faultAt(S + "picture a in s turn|9;", 1);
+        Checks.faultAt(S + "picture a in s turn|12345;", 1);
+        Checks.faultAt(S + "picture a in s |turnany;", 1);
+        Checks.faultAt(S + "picture a in s turn 1|any;", 1);
+        Checks.faultAt(S + "picture a in s turn any |1;", 1);
+        Checks.faultAt(S + "picture a in s turn any|1;", 1);
+        Checks.faultAt(S + "picture a in s turn 1 |1;", 1);
+        Checks.faultAt(S + "picture a in s turn 0000|0;", 1);
+        Checks.faultAt(S + "picture |0 in s turn 0;", 1);
+        Checks.faultAt(AP + "row a p at|5 5 weight 1;", 1);
+        Checks.faultAt(AP + "row a p at 5 1234|567 weight 1;", 1);
+        Checks.faultAt(AP + "row a p at 1234|5", 1);
+        Checks.faultAt(AP + "row a p at 5 5|weight 1;", 1);
+        Checks.faultAt(AP + "row a p at 5 |weight 1;", 1);
+        Checks.faultAt(AP + "row a p at 5 5 weight|1;", 1);
+        Checks.faultAt(AP + "row a p at 5 5 weight 1234|5;", 1);
+        Checks.faultAt(AP + "row a p |5 5 weight 1;", 1);
+        Checks.faultAt(AP + "row a |at 5 5 weight 1;", 1);
+        Checks.faultAt(AP + "row a p at 5 5 |set 1;", 1);
+        Checks.faultAt(AP + "control p at 5 5 |weight 1;", 1);
+        Checks.faultAt(AP + "control p at 5 5|set 1;", 1);
+        Checks.faultAt(AP + "centre a at 5 5 |set 1;", 1);
+        Checks.faultAt(AP + "row a p at 5 5 weight |", 1);
     }
 
     private static void names() {
-        faultAt(S + "strip |s;", 3);
-        faultAt(S + "point |s;", 3);
-        faultAt(S + "picture |s in s turn 0;", 3);
-        faultAt(A + "strip |a;", 3);
-        faultAt(AP + "picture |p in s turn 0;", 3);
-        faultAt(S + "picture a in |t turn 0;", 3);
-        faultAt(S + "picture a in |a turn 0;", 3);
-        faultAt(A + "picture b in |a turn 0;", 3);
-        faultAt(AP + "row |s p at 1 1 weight 1;", 3);
-        faultAt(AP + "row |p a at 1 1 weight 1;", 3);
-        faultAt(AP + "row a |s at 1 1 weight 1;", 3);
-        faultAt(AP + "row a |a at 1 1 weight 1;", 3);
-        faultAt(AP + "row a p at 1 1 weight 1;row a |p at 1 1 weight 1;", 3);
-        faultAt(AP + "control |a at 1 1 set 1;", 3);
-        faultAt(AP + "control p at 1 1 set 1;control |p at 1 1 set 2;", 3);
-        faultAt(AP + "centre |p at 1 1 weight 1;", 3);
-        faultAt(AP + "centre a at 1 1 weight 1;centre |a at 1 1 weight 1;", 3);
-        faultAt("picture a in |s turn 0;", 3);
-        right(AP + "point q;picture b in s turn 2;row a p at 1 1 weight 1;row b p at 1 1 weight 1;"
-            + "row a q at 1 1 weight 1;", 8);
+        Checks.faultAt(S + "strip |s;", 3);
+        Checks.faultAt(S + "point |s;", 3);
+        Checks.faultAt(S + "picture |s in s turn 0;", 3);
+        Checks.faultAt(A + "strip |a;", 3);
+        Checks.faultAt(AP + "picture |p in s turn 0;", 3);
+        Checks.faultAt(S + "picture a in |t turn 0;", 3);
+        Checks.faultAt(S + "picture a in |a turn 0;", 3);
+        Checks.faultAt(A + "picture b in |a turn 0;", 3);
+        Checks.faultAt(AP + "row |s p at 1 1 weight 1;", 3);
+        Checks.faultAt(AP + "row |p a at 1 1 weight 1;", 3);
+        Checks.faultAt(AP + "row a |s at 1 1 weight 1;", 3);
+        Checks.faultAt(AP + "row a |a at 1 1 weight 1;", 3);
+        Checks.faultAt(AP + "row a p at 1 1 weight 1;row a |p at 1 1 weight 1;", 3);
+        Checks.faultAt(AP + "control |a at 1 1 set 1;", 3);
+        Checks.faultAt(AP + "control p at 1 1 set 1;control |p at 1 1 set 2;", 3);
+        Checks.faultAt(AP + "centre |p at 1 1 weight 1;", 3);
+        Checks.faultAt(AP + "centre a at 1 1 weight 1;centre |a at 1 1 weight 1;", 3);
+        Checks.faultAt("picture a in |s turn 0;", 3);
+        Checks.right(AP + "point q;picture b in s turn 2;row a p at 1 1 weight 1;row b p at 1 1 weight 1;"
+            + "row a q at 1 1 weight 1;");
     }
 
     private static void numbersThatCantBe() {
-        faultAt(S + "picture a in s turn |4;", 2);
-        faultAt(S + "picture a in s turn |9999;", 2);
-        faultAt(AP + "row a p at 1 1 weight |0;", 2);
-        faultAt(AP + "row a p at 1 1 weight |10;", 2);
-        faultAt(AP + "row a p at 1 1 weight |10x", 2);
-        faultAt(AP + "control p at 1 1 set |0;", 2);
-        faultAt(AP + "control p at 1 1 set |3;", 2);
-        faultAt(AP + "centre a at 1 1 weight |0;", 2);
-        faultAt(AP + "centre a at 1 1 weight |10;", 2);
+        Checks.faultAt(S + "picture a in s turn |4;", 2);
+        Checks.faultAt(S + "picture a in s turn |9999;", 2);
+        Checks.faultAt(AP + "row a p at 1 1 weight |0;", 2);
+        Checks.faultAt(AP + "row a p at 1 1 weight |10;", 2);
+        Checks.faultAt(AP + "row a p at 1 1 weight |10x", 2);
+        Checks.faultAt(AP + "control p at 1 1 set |0;", 2);
+        Checks.faultAt(AP + "control p at 1 1 set |3;", 2);
+        Checks.faultAt(AP + "centre a at 1 1 weight |0;", 2);
+        Checks.faultAt(AP + "centre a at 1 1 weight |10;", 2);
     }
 
     private static void tooMany() {
         StringBuilder strips = new StringBuilder();
         for (char c = 'a'; c < 'g'; c++) strips.append("strip ").append(c).append(';');
-        right(strips.toString(), 6);
-        faultAt(strips + "|strip g;", 4);
-        faultAt(strips + " |strip !", 4);
-        faultAt(strips + " |strip7", 4);
-        faultAt(strips + " |strips g;", 1);
+        Checks.right(strips.toString());
+        Checks.faultAt(strips + "|strip g;", 4);
+        Checks.faultAt(strips + " |strip !", 4);
+        Checks.faultAt(strips + " |strip7", 4);
+        Checks.faultAt(strips + " |strips g;", 1);
         StringBuilder pictures = new StringBuilder(S);
         for (char c = 'a'; c < 'm'; c++) pictures.append("picture ").append(c).append(" in s turn 0;");
-        faultAt(pictures + "|picture m in s turn 0;", 4);
+        Checks.faultAt(pictures + "|picture m in s turn 0;", 4);
         StringBuilder points = new StringBuilder();
         for (char c = 'a'; c < 'u'; c++) points.append("point ").append(c).append(';');
-        right(points.toString(), 20);
-        faultAt(points + "|point z;", 4);
+        Checks.right(points.toString());
+        Checks.faultAt(points + "|point z;", 4);
         for (char c = 'a'; c < 'k'; c++) points.append("control ").append(c).append(" at 1 1 set 1;");
-        right(points.toString(), 30);
-        faultAt(points + "|control k at 1 1 set 1;", 4);
+        Checks.right(points.toString());
+        Checks.faultAt(points + "|control k at 1 1 set 1;", 4);
     }
 
     /** With a centre of every picture a further one has the faults that it has by itself. */
@@ -240,29 +221,29 @@ public final class TextTest {
         StringBuilder all = new StringBuilder(S);
         for (char c = 'a'; c < 'm'; c++) all.append("picture ").append(c).append(" in s turn 0;");
         for (char c = 'a'; c < 'm'; c++) all.append("centre ").append(c).append(" at 1 1 weight 1;");
-        right(all.toString(), 25);
-        right(all + "point p;control p at 1 1 set 1;row a p at 1 1 weight 1;", 28);
+        Checks.right(all.toString());
+        Checks.right(all + "point p;control p at 1 1 set 1;row a p at 1 1 weight 1;");
         Checks.due("centres", Checks.made(all.toString(), 25).has(5), 12);
         for (char c = 'a'; c < 'm'; c++) {
-            faultAt(all + "centre |" + c, 3);
-            faultAt(all + "centre |" + c + " at 1 1 weight 1;", 3);
+            Checks.faultAt(all + "centre |" + c, 3);
+            Checks.faultAt(all + "centre |" + c + " at 1 1 weight 1;", 3);
         }
-        faultAt(all + "centre |a at 1 1 weight 0;", 3);
-        faultAt(all + "centre |a !", 3);
-        faultAt(all + "centre |s at 1 1 weight 1;", 3);
-        faultAt(all + "centre |nobody", 3);
-        faultAt(all + "point p;centre |p at 1 1 weight 1;", 3);
-        faultAt(all + "centre|", 1);
-        faultAt(all + "centre  |", 1);
-        faultAt(all + "centre |;", 1);
-        faultAt(all + "centre|7", 1);
-        faultAt(all + "centre |7", 1);
-        faultAt(all + "centre |at 1 1 weight 1;", 1);
-        faultAt(all + "centre |centre", 1);
-        faultAt(all + "centre abcdef|g", 1);
-        faultAt(all + "|centres a at 1 1 weight 1;", 1);
-        faultAt(all + "|centr", 1);
-        faultAt(all + "|picture n in s turn 0;", 4);
+        Checks.faultAt(all + "centre |a at 1 1 weight 0;", 3);
+        Checks.faultAt(all + "centre |a !", 3);
+        Checks.faultAt(all + "centre |s at 1 1 weight 1;", 3);
+        Checks.faultAt(all + "centre |nobody", 3);
+        Checks.faultAt(all + "point p;centre |p at 1 1 weight 1;", 3);
+        Checks.faultAt(all + "centre|", 1);
+        Checks.faultAt(all + "centre  |", 1);
+        Checks.faultAt(all + "centre |;", 1);
+        Checks.faultAt(all + "centre|7", 1);
+        Checks.faultAt(all + "centre |7", 1);
+        Checks.faultAt(all + "centre |at 1 1 weight 1;", 1);
+        Checks.faultAt(all + "centre |centre", 1);
+        Checks.faultAt(all + "centre abcdef|g", 1);
+        Checks.faultAt(all + "|centres a at 1 1 weight 1;", 1);
+        Checks.faultAt(all + "|centr", 1);
+        Checks.faultAt(all + "|picture n in s turn 0;", 4);
     }
 
     private static void faultLeavesAll() {
