@@ -32,6 +32,7 @@ public final class ChangeLimitsTest {
         slipsToldWrong();
         slipsOfAllRows();
         imageBytes();
+        largestImage();
         imageNumbers();
         imageOfNothing();
         octets();
@@ -151,6 +152,10 @@ public final class ChangeLimitsTest {
         Checks.refused("with it", x, y -> y.alters(0, 0, 9999, 0), 1);
         Checks.refused("most", x, y -> y.alters(0, 9999, 0, 999000), 0);
         Checks.refused("most less 1", x, y -> y.alters(0, 9999, 0, 998899), 1);
+        x.measure(0, 17, 4);
+        Checks.refused("what was measured stays", x, y -> y.alters(0, 9, 9, 0), 1);
+        Checks.due("u", x.row(0, 2), 17);
+        Checks.due("v", x.row(0, 3), 4);
         x.drop(0, true);
         Checks.refused("a row that is not in use alters nothing", x, y -> y.alters(0, 9999, 0, 0), 0);
     }
@@ -346,6 +351,37 @@ public final class ChangeLimitsTest {
         x.sets(0);
         x.rounds(3);
         Checks.due("how it stands alters nothing of that", x.image(), 55);
+    }
+
+    private static void largestImage() {
+        Checks.sentence("34: AN IMAGE of the largest block");
+        StringBuilder t = new StringBuilder(Checks.times(6, "strip s%;") + Checks.times(20, "point q%;"));
+        for (int p = 0; p < 12; p++) {
+            char name = (char) ('a' + p);
+            t.append("picture ").append(name).append(" in s").append((char) ('a' + p / 2)).append(" turn any;");
+            if (p % 2 == 1) t.append("centre ").append(name).append(" at ").append(p).append(" 9 weight 1;");
+            t.append("row ").append(name).append(" q").append((char) ('a' + p)).append(" at 1 2 weight 9;");
+        }
+        for (int r = 0; r < 18; r++) t.append("row l q").append((char) ('a' + (r < 11 ? r : r + 1))).append(" at 3 4 weight 1;");
+        PictureBlock x = Checks.told(t.toString());
+        Checks.due("rounds", x.rounds(3), 3);
+        x.drop(29, true);
+        int[] image = Checks.image(x);
+        Checks.due("bytes", image.length, 1 + 12 * 9 + 20 * 8 + 6 * 8 + 30 + 1);
+        for (int s = 0; s < 6; s++) {
+            for (int axis = 0; axis < 2; axis++) {
+                int at = 1 + 12 * 9 + 20 * 8 + 8 * s + 4 * axis;
+                int drift = image[at] << 24 | image[at + 1] << 16 | image[at + 2] << 8 | image[at + 3];
+                Checks.due("drift", drift, x.drift(s, axis));
+                Checks.due("it drifts", drift != 0, true);
+            }
+        }
+        Checks.due("the last row", image[image.length - 2], 1);
+        List<Long> then = Checks.all(x);
+        x.start();
+        x.drop(29, false);
+        Checks.due("on", Checks.on(x, image), true);
+        Checks.same("all is as it tells", Checks.all(x), then);
     }
 
     private static void imageNumbers() {

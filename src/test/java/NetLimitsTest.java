@@ -28,6 +28,7 @@ public final class NetLimitsTest {
         cleanFewerThan20();
         clean50Rounds();
         cleanPutsBack();
+        cleanPutsBackTheFirst();
         cleanPutsBackSlowly();
         cleanCounts();
         tieSteps();
@@ -35,9 +36,11 @@ public final class NetLimitsTest {
         loops();
         loopOfNoneSuch();
         gaps();
+        gapLesserAhead();
         gapWithout();
         tree();
         treeOfLikeOnes();
+        treeTwice();
         treeOfNoneSuch();
         plan();
         planToldWrong();
@@ -179,6 +182,11 @@ public final class NetLimitsTest {
         Checks.due("all that are left", x.blind(), 4);
         for (int r = 1; r < 6; r++) x.drop(r, true);
         Checks.due("all dropped", x.blind(), 0);
+        x.drop(0, false);
+        Checks.due("row 0", x.blind(), 1);
+        x.drop(0, true);
+        x.drop(5, false);
+        Checks.due("the last row", x.blind(), 1);
     }
 
     private static final String HELD = FOUR + "row a p at 1 1 weight 1;row a q at 1 1 weight 1;row b q at 1 1 weight 1;row b r at 1 1 weight 1;"
@@ -195,6 +203,12 @@ public final class NetLimitsTest {
         for (int r = 0; r < 6; r++) Checks.due("c and d being loose, needs " + r, x.needs(r), then[r]);
         x.sets(0);
         Checks.due("all loose", x.needs(0), 0);
+        // twelve pictures: the point that becomes loose is none of them
+        String twelve = "strip s;" + Checks.times(12, "picture p% in s turn 0;") + "point q;point r;control r at 1 1 set 1;";
+        x = Checks.told(twelve + "row pa q at 1 1 weight 1;" + Checks.times(12, "row p% r at 1 1 weight 1;"));
+        Checks.due("q would be, no picture", x.needs(0), 0);
+        Checks.due("a would be, and q", x.needs(1), 1);
+        Checks.due("the last picture would be", x.needs(12), 1);
     }
 
     private static void needsOfNoneSuch() {
@@ -410,6 +424,25 @@ public final class NetLimitsTest {
         }
     }
 
+    private static void cleanPutsBackTheFirst() {
+        Checks.sentence("III: those dropped here: the first ROW and the last one");
+        // the one that hides is right at last, wherever it stands
+        int[][] places = {{-34, -32, 100, 100, 100, 100, 0, 0, 0, 0}, {100, 100, 100, 100, 0, 0, 0, 0, -32, -34}};
+        int[] first = {0, 9};
+        for (int k = 0; k < 2; k++) {
+            PictureBlock x = Checks.told(puts(places[k]));
+            Checks.due("clean", x.clean(11560000), 4);
+            Checks.due("put back", x.row(first[k], 5), 0);
+            Checks.due("place", x.picture(0, 3), -1100);
+        }
+        Checks.sentence("III: those dropped here: not by another one ahead of it");
+        PictureBlock x = Checks.told(puts(HIDING));
+        Checks.due("by 0", x.clean(10239999), 6);
+        Checks.due("by more", x.clean(20000000), 0);
+        Checks.due("row 4 stays dropped", x.row(4, 5), 1);
+        Checks.due("has 6", x.has(6), 6);
+    }
+
     private static void cleanPutsBackSlowly() {
         Checks.sentence("III: and, if there were any, ROUNDS till they REST (50 at most)");
         // a row of pictures that hangs on the first one comes after it slowly
@@ -567,6 +600,18 @@ public final class NetLimitsTest {
         Checks.due("no gap", x.gap(1), 0);
     }
 
+    private static void gapLesserAhead() {
+        Checks.sentence("27: (the lesser ahead): the LOOP is taken that way about");
+        // a b c make 33 by floors, the other way about -34
+        PictureBlock x = Checks.told("strip s;" + Checks.times(3, "picture % in s turn 0;") + "point p;point q;point r;"
+            + "row a p at 1 0 weight 1;row b p at 0 0 weight 1;row a q at 0 0 weight 1;row b q at 0 0 weight 1;row a r at 0 0 weight 1;"
+            + "row b r at 0 0 weight 1;row c r at 0 0 weight 1;");
+        Checks.due("this way", x.loop(0, 1, 2, 0), 33);
+        Checks.due("that way", x.loop(0, 2, 1, 0), -34);
+        Checks.due("which", x.gap(0), 102);
+        Checks.due("how much", x.gap(1), 33);
+    }
+
     private static void gapWithout() {
         Checks.sentence("27: NONE without any LOOP, or for others");
         PictureBlock x = Checks.told(FOUR + "row a p at 0 0 weight 1;row b p at 1 1 weight 1;row b q at 1 1 weight 1;row c q at 1 1 weight 1;");
@@ -617,6 +662,21 @@ public final class NetLimitsTest {
         Checks.due("strongest", x.tree(0), 102);
         Checks.due("least second", x.tree(1), 1);
         Checks.due("b and c are joined by now, a and c too", x.tree(2), NONE);
+    }
+
+    private static void treeTwice() {
+        Checks.sentence("III: two PICTURES that THE TREE does not join yet: whichever way they are joined");
+        // a and d by four points, b and d by three, a and b by two: that joins none any more
+        PictureBlock x = Checks.told("strip s;" + Checks.times(4, "picture % in s turn 0;") + Checks.times(5, "point q%;")
+            + Checks.times(3, "row a q% at 0 0 weight 1;") + Checks.times(5, "row d q% at 0 0 weight 1;")
+            + "row b qd at 0 0 weight 1;row b qe at 0 0 weight 1;row b qa at 0 0 weight 1;row a qe at 0 0 weight 1;row c qe at 0 0 weight 1;");
+        for (int twice = 0; twice < 2; twice++) {
+            Checks.due("how many", x.tree(NONE), 3);
+            Checks.due("a and d", x.tree(0), 3);
+            Checks.due("b and d", x.tree(1), 103);
+            Checks.due("a and c", x.tree(2), 2);
+            Checks.due("plan", x.plan(20), 4 + 5 + 3 + 1);
+        }
     }
 
     private static void treeOfNoneSuch() {

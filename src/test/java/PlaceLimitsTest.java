@@ -19,6 +19,7 @@ public final class PlaceLimitsTest {
         onePoint();
         twoPoints();
         rowsInUse();
+        lastRow();
         leastRow();
         leastUnlike();
         likeTurns();
@@ -33,6 +34,7 @@ public final class PlaceLimitsTest {
         nothingInUse();
         rest();
         wholePlaces();
+        wholeOfAll();
         cantBe();
         cantBeByThePrime();
         picturesTold();
@@ -41,6 +43,7 @@ public final class PlaceLimitsTest {
         driftsTold();
         starts();
         roundsToldWrong();
+        roundsThatAlterOneThing();
         roundsMade();
         sumGoesRound();
         wholeOfNoneSuch();
@@ -192,6 +195,15 @@ public final class PlaceLimitsTest {
         }
     }
 
+    private static void lastRow() {
+        Checks.sentence("II: that has a POINT with a started one by ROWS in use: the last ROW");
+        PictureBlock x = Checks.told("strip s;picture a in s turn 0;picture b in s turn 0;point p;row b p at 1 0 weight 1;row a p at 3 0 weight 1;");
+        at("b by a's row, which is the last", x, 1, 200, 0);
+        Checks.due("started alone", x.start(), 1);
+        x = Checks.told("strip s;picture a in s turn 0;picture b in s turn 0;point p;row a p at 3 0 weight 1;row b p at 1 0 weight 1;");
+        at("b by its own row, which is the last", x, 1, 200, 0);
+    }
+
     private static void leastRow() {
         Checks.sentence("II: each such POINT stands for it where the ROW with the least number in a started PICTURE puts it");
         String text = "strip s;" + Checks.times(3, "picture % in s turn 0;") + "point q;point p;row c p at 2 0 weight 1;row b p at 5 0 weight 1;"
@@ -291,6 +303,8 @@ public final class PlaceLimitsTest {
         Checks.due("without row 0", x.sum(), 28750000);
         x.drop(1, true);
         Checks.due("centre alone", x.sum(), 12750000);
+        x = Checks.told("strip s;picture a in s turn 0;picture b in s turn 0;centre a at 1 0 weight 2;centre b at 0 2 weight 1;");
+        Checks.due("centres alone", x.sum(), 20000 + 40000);
         Checks.due("nothing", Checks.told("strip s;picture a in s turn 0;point p;").sum(), 0);
         Checks.due("no text", new PictureBlock().sum(), 0);
     }
@@ -429,6 +443,25 @@ public final class PlaceLimitsTest {
         Checks.due("drift goes round", x.whole(2, 0, 0), 2 * 999900 - 1000003);
     }
 
+    private static void wholeOfAll() {
+        Checks.sentence("II: for all PICTURES and POINTS with something in use and all DRIFTS");
+        // c has its centre alone; all fits, so each stands where it fits
+        PictureBlock x = Checks.told("strip r;strip s;strip t;picture a in s turn 0;picture b in t turn 0;picture c in t turn 0;picture d in t turn 0;"
+            + "point o;point p;point q;row a p at 1 2 weight 3;row a q at 7 8 weight 4;row b q at 3 3 weight 5;control p at 20 30 set 2;"
+            + "centre a at 1 1 weight 2;centre b at 5 6 weight 7;centre c at 9 9 weight 3;");
+        int[][][] due = {{{1900, 2800}, {2300, 3300}, {2700, 3600}, {NONE, NONE}}, {{NONE, NONE}, {2000, 3000}, {2600, 3600}},
+            {{NONE, NONE}, {1800, 2700}, {1800, 2700}}};
+        for (int kind = 0; kind < 3; kind++) {
+            for (int which = 0; which < due[kind].length; which++) {
+                for (int axis = 0; axis < 2; axis++) {
+                    Checks.due("kind " + kind + " " + which, x.whole(kind, which, axis), due[kind][which][axis]);
+                }
+            }
+        }
+        x.drop(2, true);
+        Checks.due("b and its strip are loose then", x.whole(0, 0, 0), NONE);
+    }
+
     private static void cantBe() {
         Checks.sentence("II: It CAN'T BE, if these have not just one answer modulo that");
         // what is loose keeps all else from an answer
@@ -492,6 +525,10 @@ public final class PlaceLimitsTest {
         x = Checks.told("strip s;strip t;picture a in t turn any;");
         Checks.due("strip", x.picture(0, 0), 1);
         Checks.due("any", x.picture(0, 2), 1);
+        for (int weight = 1; weight < 10; weight++) {
+            x = Checks.told("strip s;picture a in s turn 0;centre a at 0 0 weight " + weight + ";");
+            Checks.due("whether it has a centre", x.picture(0, 7), 1);
+        }
     }
 
     private static void pointsTold() {
@@ -595,6 +632,23 @@ public final class PlaceLimitsTest {
             t.append("row p").append(letter).append(" q").append(letter).append(" at 9 0 weight 1;");
         }
         return t + "control ql at 9999 9 set 1;control qa at 0 9 set 2;";
+    }
+
+    private static void roundsThatAlterOneThing() {
+        Checks.sentence("13: how many altered something: POINTS, PICTURES, DRIFTS, across or along, each alone");
+        // all at rest at 0; then one number is moved from there, in the image
+        String text = "strip s;picture a in s turn 0;point p;point q;row a p at 0 0 weight 9;row a q at 0 0 weight 1;control q at 0 0 set 1;"
+            + "centre a at 0 0 weight 9;";
+        int[] places = {2, 6, 10, 14, 26, 30};
+        for (int place : places) {
+            PictureBlock x = Checks.told(text);
+            Checks.due("at rest", x.rounds(1), 0);
+            // p would come after its picture
+            if (place < 10) x.drop(0, true);
+            Checks.due("on", Checks.on(x, Checks.withInt(Checks.image(x), place, 1)), true);
+            Checks.due("altered by " + place, x.rounds(1), 1);
+            Checks.due("at rest again", x.rounds(500), 0);
+        }
     }
 
     private static void roundsMade() {

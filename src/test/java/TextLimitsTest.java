@@ -1,6 +1,7 @@
 import java.lang.reflect.Constructor;
 import java.lang.reflect.Field;
 import java.lang.reflect.Method;
+import java.util.ArrayList;
 import java.util.List;
 
 /** Term I, promises 1 to 7: each sentence that names a limit, an edge or a refusal, by itself. */
@@ -51,6 +52,7 @@ public final class TextLimitsTest {
         blockOfNothing();
         blockWithAFault();
         blockWithoutAFault();
+        blockBehindAnother();
         faultOfTheLatest();
         hasOthers();
         letters();
@@ -681,6 +683,66 @@ public final class TextLimitsTest {
         Checks.due("drift", x.drift(0, 1), 0);
         Checks.due("picture", x.picture(0, 3), 0);
         Checks.due("u", x.row(0, 2), 1);
+    }
+
+    /** What the calls tell beside Checks.all. */
+    private static List<Long> more(PictureBlock x) {
+        List<Long> more = new ArrayList<>();
+        for (int kind = 0; kind < 3; kind++) {
+            for (int which = 0; which < x.has(kind); which++) {
+                more.add((long) x.whole(kind, which, 0));
+                more.add((long) x.whole(kind, which, 1));
+            }
+        }
+        for (int a = 0; a < x.has(1); a++) {
+            for (int b = 0; b < x.has(1); b++) {
+                more.add((long) x.hang(a, b));
+                for (int what = 0; what < 3; what++) more.add((long) x.tie(a, b, what));
+            }
+        }
+        for (int r = 0; r < x.has(3); r++) more.add((long) x.needs(r));
+        int[] each = {x.parts(), x.blind(), x.worst(), x.gap(0), x.gap(1), x.tree(-1), x.tree(0), x.tree(1), x.plan(1), x.plan(20),
+            x.alters(0, 9, 9, 0), x.differ(0, 0), x.differ(1, 1)};
+        for (int one : each) more.add((long) one);
+        for (int octet : Checks.image(x)) more.add((long) octet);
+        more.add((long) x.rounds(2));
+        more.add((long) x.clean(1000));
+        more.addAll(Checks.all(x));
+        more.add((long) x.start());
+        more.addAll(Checks.all(x));
+        return more;
+    }
+
+    private static void blockBehindAnother() {
+        Checks.sentence("4: The tape is THE BLOCK: nothing of an earlier one is left");
+        StringBuilder t = new StringBuilder(Checks.times(6, "strip s%;") + Checks.times(12, "picture p% in sf turn 3;") + Checks.times(20, "point q%;")
+            + Checks.times(10, "control q% at 77 66 set 1;") + Checks.times(12, "centre p% at 9 9 weight 9;"));
+        for (int r = 0; t.length() < 1560; r++) {
+            // those of the first two pictures ahead, so that what is left of them would do most
+            String pair = "p" + (char) ('a' + (r < 8 ? r % 2 : r % 12)) + " q" + (char) ('a' + (r < 8 ? r / 2 : 4 + r / 12));
+            t.append("row ").append(pair).append(" at 8 7 weight 9;");
+        }
+        String[] later = {"strip a;picture b in a turn 0;picture c in a turn any;point d;point e;row b d at 1 2 weight 1;row b e at 3 4 weight 2;"
+            + "row c d at 5 5 weight 3;control e at 5 5 set 1;", "strip a;picture b in a turn 1;picture c in a turn 1;point d;point e;"
+            + "row c e at 1 2 weight 1;", "strip a;strip b;picture c in b turn 0;picture d in b turn 2;point e;row c e at 1 2 weight 3;"
+            + "row d e at 3 4 weight 5;centre d at 1 1 weight 1;control e at 2 2 set 2;", "strip a;picture b in a turn 0;picture c in a turn 0;point d;point e;"
+            + "row b e at 1 2 weight 1;", "strip a;picture b in a turn 0;picture c in a turn 0;point d;point e;"};
+        for (String text : later) {
+            PictureBlock x = Checks.told(t.toString());
+            x.rounds(2);
+            x.sets(1);
+            x.clean(1);
+            x.tree(0);
+            x.gap(0);
+            x.whole(0, 0, 0);
+            x.differ(1, 1);
+            x.alters(1, 3, 3, 3);
+            x.slips(60, 999, 3);
+            Checks.block(x, text);
+            PictureBlock fresh = Checks.told(text);
+            Checks.same("all", Checks.all(x), Checks.all(fresh));
+            Checks.same("more", more(x), more(fresh));
+        }
     }
 
     private static void faultOfTheLatest() {
