@@ -1,6 +1,11 @@
 import java.io.IOException;
+import java.lang.reflect.Field;
+import java.lang.reflect.Method;
+import java.lang.reflect.Modifier;
 import java.nio.file.Files;
 import java.nio.file.Path;
+import java.util.HashSet;
+import java.util.Set;
 import java.util.regex.Matcher;
 import java.util.regex.Pattern;
 
@@ -22,7 +27,47 @@ public final class LanguageTest {
         Checks.due("members of the face that are neither public nor private",
             count(bare, "(?m)^    (?!public |private |\\}| )\\S"), 0);
         methodsAreShort(source);
+        theFaceAlone();
+        for (Class<?> inside : PictureBlock.class.getDeclaredClasses()) classInside(inside);
         Checks.finish("LanguageTest");
+    }
+
+    private static void theFaceAlone() {
+        Set<String> open = new HashSet<>();
+        for (Method m : PictureBlock.class.getDeclaredMethods()) {
+            if (Modifier.isPublic(m.getModifiers())) Checks.due("a public method of its own name, " + m.getName(), open.add(m.getName()), true);
+        }
+        Checks.due("public methods", open.size(), 35);
+        for (Method m : PictureBlock.class.getDeclaredMethods()) {
+            if (Modifier.isPublic(m.getModifiers()) || m.isSynthetic()) continue;
+            Checks.due("private " + m.getName(), Modifier.isPrivate(m.getModifiers()), true);
+            Checks.due("no name of a public one, " + m.getName(), open.contains(m.getName()), false);
+        }
+        for (Field f : PictureBlock.class.getDeclaredFields()) {
+            boolean constant = f.getName().equals("NONE") || f.getName().equals("NOTHING");
+            Checks.due("public " + f.getName(), Modifier.isPublic(f.getModifiers()), constant);
+            Checks.due("private " + f.getName(), Modifier.isPrivate(f.getModifiers()), !constant);
+        }
+        Checks.due("constructors", PictureBlock.class.getConstructors().length, 1);
+        Checks.due("final", Modifier.isFinal(PictureBlock.class.getModifiers()), true);
+        fields(PictureBlock.class);
+    }
+
+    private static void classInside(Class<?> inside) {
+        int open = Modifier.PUBLIC | Modifier.PROTECTED;
+        Checks.due("static " + inside.getName(), Modifier.isStatic(inside.getModifiers()), true);
+        Checks.due("not open " + inside.getName(), inside.getModifiers() & open, 0);
+        for (Method m : inside.getDeclaredMethods()) Checks.due("not open " + m.getName(), m.getModifiers() & open, 0);
+        fields(inside);
+    }
+
+    private static void fields(Class<?> of) {
+        int own = 0;
+        for (Field f : of.getDeclaredFields()) {
+            if (!Modifier.isStatic(f.getModifiers())) own++;
+            else Checks.due("static and final " + f.getName(), Modifier.isFinal(f.getModifiers()), true);
+        }
+        Checks.due("fields of " + of.getName(), own <= 20, true);
     }
 
     private static int count(String text, String pattern) {
